@@ -461,31 +461,23 @@ public final class IslandGrammar {
         }
     }
 
-    /**
-     * Where each rule ends whose elements from an index on begin at a position; NONE where they
-     * don't match, and at every place outside of the table.
-     */
+    /** Where each rule ends whose elements from an index on begin at a position, NONE if they fail. */
     private static final class EndTable {
         private static final int INDEXES = MAX_PATTERN + 1;
 
         private final int[] cells = new int[RULES * INDEXES * POSITIONS];
 
+        /** An element that fails ends at NONE, and what comes behind it fails, too. */
         int get(int rule, int index, int position) {
-            int cell = cellOf(rule, index, position);
-            return cell >= 0 && cell < cells.length ? cells[cell] : NONE;
+            int cell = (rule * INDEXES + index) * POSITIONS + position;
+            return position >= 0 && cell >= 0 && cell < cells.length ? cells[cell] : NONE;
         }
 
         void set(int rule, int index, int position, int end) {
-            int cell = cellOf(rule, index, position);
-            if (cell >= 0 && cell < cells.length) {
+            int cell = (rule * INDEXES + index) * POSITIONS + position;
+            if (position >= 0 && cell >= 0 && cell < cells.length) {
                 cells[cell] = end;
             }
-        }
-
-        private static int cellOf(int rule, int index, int position) {
-            boolean inside = isRule(rule) && index >= 0 && index < INDEXES
-                    && position >= 0 && position < POSITIONS;
-            return inside ? (rule * INDEXES + index) * POSITIONS + position : NONE;
         }
     }
 
