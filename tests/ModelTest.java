@@ -85,7 +85,7 @@ public final class ModelTest {
 
     private void change() {
         String method = CHANGES[random.nextInt(CHANGES.length)];
-        int length = grammar.length();
+        int length = length();
         switch (method) {
             case "insert":
                 call(method, oddOr(random.nextBoolean() ? length : random.nextInt(length + 1)), textByte());
@@ -110,14 +110,15 @@ public final class ModelTest {
 
     private void ask() {
         String method = QUESTIONS[random.nextInt(QUESTIONS.length)];
-        int nodes = grammar.nodeCount();
+        // The model is asked, as the object has no more than its 512 calls.
+        int nodes = (int) model.answer("nodeCount", 0, 0);
         nodesSeen += nodes;
         switch (method) {
             case "element":
                 call(method, rule(), oddOr(random.nextInt(9)));
                 break;
             case "matchEnd":
-                call(method, rule(), oddOr(random.nextInt(grammar.length() + 1)));
+                call(method, rule(), oddOr(random.nextInt(length() + 1)));
                 break;
             case "countOf":
                 call(method, rule(), 0);
@@ -127,12 +128,16 @@ public final class ModelTest {
                 break;
             case "byteAt":
             case "nodeAt":
-                call(method, position(grammar.length()), 0);
+                call(method, position(length()), 0);
                 break;
             default:
                 call(method, oddOr(random.nextInt(nodes + 1)), 0);
                 break;
         }
+    }
+
+    private int length() {
+        return (int) model.answer("length", 0, 0);
     }
 
     private int oddOr(int value) {
@@ -152,6 +157,9 @@ public final class ModelTest {
     }
 
     private void call(String method, int a, int b) {
+        if (calls == CALLS) {
+            return;
+        }
         calls++;
         long due = model.answer(method, a, b);
         long got = answer(method, a, b);

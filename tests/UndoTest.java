@@ -1,5 +1,7 @@
 /** Promises 27 to 29: undo, the error counters and the digest. */
 public final class UndoTest {
+    private static final int[] NO_STOPS = {-1, -1, -1, -1, -1, -1};
+
     public static void main(String[] args) {
         undoes();
         keepsFour();
@@ -55,59 +57,14 @@ public final class UndoTest {
         new Script(28, "undo of a full text").text("a".repeat(100)).calls("insert(0, 'a') = FULL; undo() = 3; insert(0, 'a') = 100; insert(0, 'a') = FULL").errorsAre(0, 0, 2);
     }
 
-    /** The digest as the document says it, from the answers of the other methods. */
-    private static long digestOf(IslandGrammar grammar, int bufferSize, int saved) {
-        long hash = 17305;
-        for (int kind = 0; kind < 3; kind++) {
-            hash = 31 * hash + grammar.errorCount(kind);
-        }
-        hash = 31 * hash + bufferSize;
-        hash = 31 * hash + saved;
-        hash = 31 * hash + grammar.length();
-        for (int position = 0; position < grammar.length(); position++) {
-            hash = 31 * hash + grammar.byteAt(position);
-        }
-        for (int rule = 0; rule < 6; rule++) {
-            int size = 0;
-            while (grammar.element(rule, size) != -1) {
-                size++;
-            }
-            hash = 31 * hash + size;
-            for (int index = 0; index < size; index++) {
-                hash = 31 * hash + grammar.element(rule, index);
-            }
-            // Reading a stop byte needs a change, so it is taken back at once.
-            int stop = grammar.setStop(rule, -1);
-            grammar.undo();
-            hash = 31 * hash + stop;
-        }
-        hash = 31 * hash + grammar.nodeCount();
-        for (int node = 0; node < grammar.nodeCount(); node++) {
-            hash = 31 * hash + grammar.nodeRule(node);
-            hash = 31 * hash + grammar.nodeStart(node);
-            hash = 31 * hash + grammar.nodeEnd(node);
-            hash = 31 * hash + grammar.nodeParent(node);
-            hash = 31 * hash + grammar.nodeWater(node);
-            hash = 31 * hash + grammar.nodeNumber(node);
-        }
-        hash = 31 * hash + grammar.waterLength();
-        return 31 * hash + grammar.longestWater();
-    }
-
-    private static void digest(Script script, int bufferSize, int saved) {
-        long got = script.grammar().digest();
-        script.due("digest()", got, digestOf(script.grammar(), bufferSize, saved));
-        script.errorsAre(script.grammar().errorCount(0), script.grammar().errorCount(1), script.grammar().errorCount(2));
-    }
-
     private static void digests() {
-        digest(new Script(29, "a new object"), 0, 0);
-        digest(new Script(29, "a text").text("ab"), 0, 2);
-        digest(new Script(29, "errors and a buffer").calls("byteAt(0) = INVALID; undo() = REJECTED; append('a') = 1"), 1, 0);
-        // Three saved states, as the reading of the stop bytes would push a fourth one out.
-        digest(new Script(29, "rules and nodes").rule(0, "(~)").text("x(1(2)3)y(").calls("undo() = 3"), 3, 3);
-        digest(new Script(29, "numbers").rule(0, "a#").calls("setStop(3, ';') = NONE").text("a12a7xyz").calls("undo() = 3"), 2, 3);
-        digest(new Script(29, "a text that was deleted").rule(0, "a#").text("a12a7xyz").calls("delete(2, 6) = 2; undefine(0) = 2; undo() = 3"), 2, 3);
+        new Script(29, "a new object").digestIs(0, 0, NO_STOPS);
+        new Script(29, "a text").text("ab").digestIs(0, 2, NO_STOPS);
+        new Script(29, "errors and a buffer").calls("byteAt(0) = INVALID; undo() = REJECTED; append('a') = 1").digestIs(1, 0, NO_STOPS);
+        new Script(29, "rules and nodes").rule(0, "(~)").text("x(1(2)3)y(").digestIs(3, 4, NO_STOPS);
+        new Script(29, "numbers").rule(0, "a#").calls("setStop(3, ';') = NONE").text("a12a7xyz").digestIs(2, 4, -1, -1, -1, ';', -1, -1);
+        new Script(29, "a text that was deleted").rule(0, "a#").text("a12a7xyz").calls("delete(2, 6) = 2; undefine(0) = 2; undo() = 3").digestIs(2, 3, NO_STOPS);
+        new Script(29, "asking counts no error").rule(0, "a#").text("a12").digestIs(2, 4, NO_STOPS).errorsAre(0, 0, 0);
         Script same = new Script(29, "answered twice").rule(0, "#").text("1a2");
         same.due("digest()", same.grammar().digest(), same.grammar().digest());
     }
