@@ -312,6 +312,7 @@ public final class EdgesTest {
         }
         new Script(9, "a refused define keeps the rule").rule(0, "ab").calls("clearPattern() = 2; append('~') = 1; append('c') = 2; define(0) = REJECTED; element(0, 0) = 'a'; element(0, 1) = 'b'; clearPattern() = 2; undo() = 0; element(0, 0) = NONE").errorsAre(0, 1, 0);
         new Script(9, "a shorter pattern").rule(0, "12345678").rule(0, "1").calls("element(0, 0) = '1'; element(0, 1) = NONE; undefine(0) = 1").text("1").calls("matchEnd(0, 0) = NONE; define(0) = 1; matchEnd(0, 0) = 1");
+        new Script(9, "a reference that is gone").rule(5, "z").rule(0, "xF").rule(0, "x").text("xy").calls("matchEnd(0, 0) = 1; nodeCount() = 1; nodeAt(1) = NONE; waterLength() = 1");
         new Script(9, "the stop byte stays").calls("setStop(5, 32) = NONE").rule(5, "a").calls("setStop(5, 126) = 32").rule(5, "b").calls("setStop(5, NONE) = 126");
     }
 
@@ -380,6 +381,7 @@ public final class EdgesTest {
         new Script(21, "nested").rule(0, "a").rule(5, "bA").text("a".repeat(98) + "ba").calls("nodeWater(98) = 0; nodeWater(99) = 0");
         new Script(22, "nested").rule(0, "a").rule(1, "#").rule(5, "bB").text("a".repeat(98) + "b7").calls("nodeNumber(98) = NONE; nodeNumber(99) = 7; nodeRule(99) = 1");
         new Script(21, "all but two bytes").rule(0, "a~b").text("a" + "x".repeat(98) + "b").calls("nodeWater(0) = 98");
+        new Script(21, "counted anew behind each change").rule(0, "a~b").text("axb").calls("nodeWater(0) = 1; insert(1, 'y') = 4; nodeWater(0) = 2; delete(1, 2) = 2; nodeWater(0) = 0; undo() = 3; nodeWater(0) = 2; undo() = 2; nodeWater(0) = 1");
         new Script(21, "none").rule(0, "a~b").text("ab").calls("nodeWater(0) = 0");
         new Script(19, "a nested one becomes top-level").rule(0, "(~)").text("(()").calls("nodeParent(0) = NONE; nodeStart(0) = 1").text(")").calls("nodeParent(0) = NONE; nodeParent(1) = 0; nodeDepth(1) = 1; delete(3, 1) = 3; nodeParent(0) = NONE; nodeDepth(0) = 0; nodeParent(1) = INVALID");
     }
