@@ -1,3 +1,4 @@
+import java.lang.management.ManagementFactory;
 import java.lang.reflect.Array;
 import java.lang.reflect.Field;
 import java.lang.reflect.Method;
@@ -25,8 +26,8 @@ public final class FaceTest {
         "long digest()"};
     private static final String[] FORBIDDEN = {
         "\\bthrow\\b", "\\bthrows\\b", "\\btry\\b", "\\bcatch\\b", "\\bsynchronized\\b",
-        "\\bassert\\b", "\\bpackage\\b", "\\bimport\\b", "\\bvar\\b", "->", "::", "\\bSystem\\.out\\b",
-        "\\bObject\\b", "\\bstatic\\s*\\{"};
+        "\\bassert\\b", "\\bpackage\\b", "\\bimport\\s+(?!java\\.util\\.(ArrayList|List|Arrays|Iterator);)", "::",
+        "\\bSystem\\.(?!arraycopy\\b)", "\\bObject\\b", "\\bstatic\\s*\\{", "\\w+Exact\\("};
     private static final Path SOURCE = Path.of("src/main/java/IslandGrammar.java");
     private static final int CALLS = 512;
     private static final long ROOM_OBJECTS = 600_000;
@@ -42,6 +43,7 @@ public final class FaceTest {
         }
         sourceText();
         room();
+        roomOfRun();
         System.out.println(wrong == 0 ? "the face is as due" : wrong + " faults in the face");
         if (wrong != 0) {
             System.exit(1);
@@ -113,6 +115,7 @@ public final class FaceTest {
         check(type == IslandGrammar.class || Modifier.isStatic(type.getModifiers()), type + " is not static");
         for (Method method : type.getDeclaredMethods()) {
             check(method.getParameterCount() <= 7, method + " takes too many parameters");
+            check(!method.getName().startsWith("lambda$"), type + " holds a lambda");
             check(Modifier.isPublic(method.getModifiers()) || !faceNames.contains(method.getName()),
                     method + " bears the name of a public one");
         }
@@ -133,6 +136,47 @@ public final class FaceTest {
         System.out.println("an object holds " + size[0] + " objects with " + size[1] + " fields and elements");
         check(size[0] * CALLS < ROOM_OBJECTS, "too many objects");
         check(size[1] * CALLS < ROOM_CELLS, "too many fields and elements");
+    }
+
+    /** What a run makes, kept or dropped, as the machine counts it. */
+    private static void roomOfRun() {
+        if (!(ManagementFactory.getThreadMXBean() instanceof com.sun.management.ThreadMXBean machine)) {
+            System.out.println("this machine doesn't count what a run makes");
+            return;
+        }
+        // The first run makes what the machine needs to load the classes.
+        dearestRun();
+        long before = machine.getCurrentThreadAllocatedBytes();
+        long answers = dearestRun();
+        long bytes = machine.getCurrentThreadAllocatedBytes() - before;
+        System.out.println("a run of " + CALLS + " calls makes " + bytes + " bytes");
+        // A field or element takes a byte or more and an object sixteen, so this keeps both bounds.
+        check(bytes < ROOM_CELLS, "a run makes too much");
+        check(answers == CALLS, "a run of " + answers + " calls");
+    }
+
+    /** Full rules and a full text, then a change before each digest: nothing is known from before. */
+    private static int dearestRun() {
+        IslandGrammar grammar = new IslandGrammar();
+        int calls = 0;
+        for (char element : "a~~~~~~b".toCharArray()) {
+            grammar.append(element);
+            calls++;
+        }
+        for (int rule = 0; rule < 6; rule++) {
+            grammar.define(rule);
+            calls++;
+        }
+        for (int position = 0; position < 100; position++) {
+            grammar.insert(position, position < 50 ? 'a' : 'b');
+            calls++;
+        }
+        while (calls < CALLS) {
+            grammar.replace(0, 'a');
+            grammar.digest();
+            calls += 2;
+        }
+        return calls;
     }
 
     private static void measure(Object object, Map<Object, Boolean> seen, long[] size) throws IllegalAccessException {

@@ -63,6 +63,7 @@ public final class MatchTest {
         script("an island hides the end").rule(0, "(~)").text("((x)").calls("matchEnd(0, 0) = NONE; matchEnd(0, 1) = 4");
         script("of another rule").rule(0, "a~c").rule(1, "bc").text("abcxc").calls("matchEnd(0, 0) = 5; undefine(1) = 2; matchEnd(0, 0) = 3");
         script("the lowest rule").rule(5, "a~d").rule(1, "bc").rule(2, "bcd").text("abcdd").calls("matchEnd(5, 0) = 4; undefine(1) = 2; matchEnd(5, 0) = 5");
+        script("the lowest rule, though it is longer").rule(5, "a~d").rule(1, "bcd").rule(2, "bc").text("abcdd").calls("matchEnd(5, 0) = 5; undefine(1) = 3; matchEnd(5, 0) = 4");
         script("not taken back").rule(0, "a~c").rule(1, "bc").text("abc").calls("matchEnd(0, 0) = NONE");
         script("the rest is tried first").rule(0, "a~b").rule(1, "bb").text("abb").calls("matchEnd(0, 0) = 2");
         script("the rest after an island").rule(0, "a~b").rule(1, "xb").text("axbb").calls("matchEnd(0, 0) = 4");
@@ -73,6 +74,13 @@ public final class MatchTest {
     private static void stopBytes() {
         script("a stop byte").rule(0, "a~b").text("a;b").calls("matchEnd(0, 0) = 3; setStop(0, ';') = NONE; matchEnd(0, 0) = NONE; setStop(0, NONE) = ';'; matchEnd(0, 0) = 3");
         script("of another rule").rule(0, "a~b").text("a;b").calls("setStop(1, ';') = NONE; matchEnd(0, 0) = 3");
+        for (int rule = 0; rule <= 5; rule++) {
+            Script others = script("of all rules but rule " + rule).rule(rule, "a~b").text("a;b");
+            for (int other = 0; other <= 5; other++) {
+                others.calls(other == rule ? "" : "setStop(" + other + ", ';') = NONE");
+            }
+            others.calls("matchEnd(" + rule + ", 0) = 3; setStop(" + rule + ", ';') = NONE; matchEnd(" + rule + ", 0) = NONE");
+        }
         script("in a nested island").rule(0, "a~b").rule(1, "<~>").text("a<;>b").calls("setStop(0, ';') = NONE; matchEnd(0, 0) = 5; undefine(1) = 3; matchEnd(0, 0) = NONE");
         script("at the start of a nested island").rule(0, "a~b").rule(1, ";x").text("a;xb").calls("setStop(0, ';') = NONE; matchEnd(0, 0) = 4; undefine(1) = 2; matchEnd(0, 0) = NONE");
         script("of the nested rule").rule(0, "a~b").rule(1, "<~>").text("a<;>b").calls("setStop(1, ';') = NONE; matchEnd(1, 1) = NONE; matchEnd(0, 0) = 5");
@@ -86,6 +94,9 @@ public final class MatchTest {
         script("two waters").rule(0, "a~b~c").text("axbybc").calls("matchEnd(0, 0) = 6");
         script("waters side by side").rule(0, "a~~c").text("axyc").calls("matchEnd(0, 0) = 4; setStop(0, 'y') = NONE; matchEnd(0, 0) = NONE");
         script("the whole rest behind the first").rule(0, "a~b~c").rule(1, "yc").text("abycb;c").calls("matchEnd(0, 0) = 7; setStop(0, ';') = NONE; matchEnd(0, 0) = NONE");
+        // A try of the rest may come to a stop byte or to the end: then the rest doesn't match, and the first water goes on.
+        script("a rest that comes to a stop byte").rule(0, "x~b~c").rule(1, "b;").text("xb;bc").calls("setStop(0, ';') = NONE; matchEnd(0, 0) = 5; undefine(1) = 2; matchEnd(0, 0) = NONE");
+        script("a rest that comes to the end").rule(0, "x~b~c").rule(1, "b(").rule(2, "(~)").text("xb(bc)").calls("matchEnd(0, 0) = 5; undefine(1) = 2; matchEnd(0, 0) = NONE; undefine(2) = 3; matchEnd(0, 0) = 5");
         script("eight elements").rule(0, "a~b~c~d~").text("a.b.c.d.").calls("matchEnd(0, 0) = 7");
     }
 

@@ -30,6 +30,8 @@ public final class NodesTest {
         Script lowest = new Script(16, "the lowest rule").rule(3, "ab").rule(1, "a").rule(4, "b").text("abb");
         lowest.calls("nodeCount() = 3").each("nodeRule", 1, 4, 4, -2).each("nodeStart", 0, 1, 2).each("nodeEnd", 1, 2, 3).each("nodeParent", -1, -1, -1).each("nodeDepth", 0, 0, 0);
         lowest.calls("undefine(1) = 1; nodeCount() = 2").each("nodeRule", 3, 4).each("nodeStart", 0, 2).each("nodeEnd", 2, 3);
+        new Script(16, "the lowest rule, though it is longer").rule(5, "[~]").rule(2, "ab").rule(4, "a").text("ab[ab]").calls("nodeCount() = 3").each("nodeRule", 2, 5, 2).each("nodeEnd", 2, 6, 5).each("nodeParent", -1, -1, 1).each("nodeWater", 0, 0, 0)
+                .calls("undefine(2) = 2; nodeCount() = 3").each("nodeRule", 4, 5, 4).each("nodeEnd", 1, 6, 4).each("nodeWater", 0, 1, 0);
         new Script(17, "after water").rule(0, "#").text("ab12cd3").calls("nodeCount() = 2").each("nodeStart", 2, 6).each("nodeEnd", 4, 7).each("nodeRule", 0, 0);
         new Script(18, "parsing goes on at the end").rule(0, "aa").text("aaaaa").calls("nodeCount() = 2").each("nodeStart", 0, 2).each("nodeEnd", 2, 4).calls("waterLength() = 1");
         new Script(16, "all rules").rule(0, "a").rule(1, "b").rule(2, "c").rule(3, "d").rule(4, "e").rule(5, "f").text("fedcba").each("nodeRule", 5, 4, 3, 2, 1, 0);
@@ -52,6 +54,7 @@ public final class NodesTest {
         new Script(14, "a rule that fails in the end").rule(0, "[B;").rule(1, "#").text("[12]").calls("nodeCount() = 1; nodeRule(0) = 1; nodeStart(0) = 1; nodeParent(0) = NONE; nodeDepth(0) = 0");
         new Script(14, "a rest that fails").rule(0, "[~B;").rule(1, "#").text("[1,2;").calls("nodeCount() = 3").each("nodeRule", 0, 1, 1).each("nodeStart", 0, 1, 3).each("nodeParent", -1, 0, 0).each("nodeWater", 1, 0, 0);
         new Script(14, "a rest that fails inside of an island").rule(0, "[~B]").rule(1, "#").rule(2, "1a#").text("[1a2]").calls("nodeCount() = 3").each("nodeRule", 0, 1, 1).each("nodeStart", 0, 1, 3);
+        new Script(14, "a rest that comes to the end").rule(0, "x~b~c").rule(1, "b(").rule(2, "(~)").text("xb(bc)").calls("nodeCount() = 2").each("nodeRule", 0, 1).each("nodeStart", 0, 1).each("nodeEnd", 5, 3).each("nodeParent", -1, 0).each("nodeWater", 0, 0).calls("waterLength() = 1");
         new Script(14, "a rest inside of digits").rule(0, "[~1").rule(1, "#").text("[2,145").calls("nodeCount() = 3; islandCount() = 2").each("nodeRule", 0, 1, 1).each("nodeStart", 0, 1, 4).each("nodeEnd", 4, 2, 6);
     }
 
